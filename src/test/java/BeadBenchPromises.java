@@ -534,6 +534,9 @@ public final class BeadBenchPromises {
         due("none alike", x.match(0, 0, 1, 0, 4), 0);
         due("with itself, any n", x.match(0, 0, 0, 0, MAX), 4);
         due("as far as both go", x.match(0, 2, 1, 1, 9), 1);
+        fill(x, 6, WEIGHTS, 3, 4, 0);
+        due("up to the end of the first", x.match(0, 2, 6, 0, 9), 2);
+        due("up to the end of the second", x.match(6, 0, 0, 2, 9), 2);
         due("at both ends", x.match(0, 4, 1, 3, 1), 0);
         due("p too far", x.match(0, 5, 1, 0, 1), PLACES);
         due("q too far", x.match(0, 0, 1, 4, 1), PLACES);
