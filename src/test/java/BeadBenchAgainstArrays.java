@@ -2,12 +2,11 @@ import java.lang.reflect.Array;
 import java.util.Random;
 
 /**
- * Runs of up to 512 calls on BeadBench and, beside it, on a bench made of Java's own arrays, whose System.arraycopy does
- * what the document calls a MOVE. The seeds are fixed, so that every run is the same each time.
+ * Runs of up to 512 calls on BeadBench and, beside it, on a bench made of Java's own arrays, whose System.arraycopy
+ * does what the document calls a MOVE. The seeds are fixed, so that every run is the same each time.
  */
-public final class BeadBenchAgainstArrays {
-    private static final int RUNS = 600, CALLS = 500;
-    private static final int MISSING = -1, NO_ROW = -2, UNLIKE = -3, PLACES = -4, STOPPED = -5, BAD = -6;
+public final class BeadBenchAgainstArrays extends Checks {
+    private static final int RUNS = 2000, CALLS_OF_A_TURN = 5;
 
     private static class Bead {
         int number;
@@ -385,83 +384,76 @@ public final class BeadBenchAgainstArrays {
         }
     }
 
-    /** One call on both; the answer is null when both answered alike. */
-    private static String call(BeadBench x, Model m, Inputs in) {
-        int c = in.random.nextInt(30);
+    /** One call on both; true when they answered otherwise. */
+    private static boolean callDiffers(Bench x, Model m, Inputs in) {
         int t = in.tray();
         int u = in.tray();
         int p = in.place();
         int q = in.place();
         int n = in.few();
         int v = in.value();
-        String args = " t=" + t + " u=" + u + " p=" + p + " q=" + q + " n=" + n + " v=" + v;
-        switch (c) {
-            case 0: case 1: {
-                if (!m.bad(t) && m.size(m.trays[t]) > 0 && in.random.nextInt(3) != 0) {
-                    return null;
-                }
-                int kind = in.kind();
-                int length = in.length();
-                return alike("lay kind=" + kind + " n=" + length + args, x.lay(t, kind, length), m.lay(t, kind, length));
+        switch (in.random.nextInt(24)) {
+            case 0: case 1: return layDiffers(x, m, in, t);
+            case 2: case 3: case 4: case 5: return differ(x.put(t, p, v), m.put(t, p, v));
+            case 6: case 7: {
+                int i = m.bad(t) ? p : in.random.nextInt(m.size(m.trays[t]) + 1);
+                return differ(x.put(t, i, v), m.put(t, i, v));
             }
-            case 2: {
-                int what = in.random.nextInt(6) == 0 ? v : 1;
-                return in.random.nextInt(6) != 0 ? null
-                    : alike("ticket what=" + what + args, x.ticket(t, what, v) ? 1 : 0, m.ticket(t, what, v));
-            }
-            case 3: return in.random.nextInt(3) != 0 ? null : alike("share" + args, x.share(t, u), m.share(t, u));
-            case 4: case 5: case 6: case 7: case 8: case 9: case 10: case 11:
-                p = c < 8 && !m.bad(t) ? in.random.nextInt(m.size(m.trays[t]) + 1) : p;
-                args = " t=" + t + " p=" + p + " v=" + v;
-                return alike("put" + args, x.put(t, p, v), m.put(t, p, v));
-            case 12: case 13: case 14: case 15:
-                if (in.random.nextInt(3) != 0 && !m.bad(t) && !m.bad(u)) {
-                    p = in.random.nextInt(m.size(m.trays[t]) / 2 + 1);
-                    q = in.random.nextInt(m.size(m.trays[u]) / 2 + 1);
-                    int most = Math.min(m.size(m.trays[t]) - p, m.size(m.trays[u]) - q);
-                    n = in.random.nextBoolean() ? most : in.random.nextInt(most + 1);
-                }
-                args = " t=" + t + " u=" + u + " p=" + p + " q=" + q + " n=" + n;
-                return alike("move" + args, x.move(t, p, u, q, n), m.move(t, p, u, q, n));
-            case 16: case 17: return alike("open" + args, x.open(t, p, n), m.open(t, p, n));
-            case 18: case 19: return alike("close" + args, x.close(t, p, n), m.close(t, p, n));
-            case 20: return alike("turn" + args, x.turn(t, v), m.turn(t, v));
-            case 21: return alike("spread" + args, x.spread(t, n), m.spread(t, n));
-            case 22: case 23: return alike("undo", x.undo(), m.undo());
-            case 24: case 25: return alike("match" + args, x.match(t, p, u, q, v), m.match(t, p, u, q, v));
-            case 26: case 27: return alike("polish" + args, x.polish(t, p, v), m.polish(t, p, v));
-            case 28: return alike("tray" + args, x.tray(t, n), m.tray(t, n));
-            default: return alike("told" + args, x.told(v), m.told(v));
+            case 8: return differ(x.move(t, p, u, q, n), m.move(t, p, u, q, n));
+            case 9: case 10: case 11: return m.bad(t) || m.bad(u) ? false : fitMoveDiffers(x, m, in, t, u);
+            case 12: case 13: return differ(x.open(t, p, n), m.open(t, p, n));
+            case 14: case 15: return differ(x.close(t, p, n), m.close(t, p, n));
+            case 16: return differ(x.turn(t, v), m.turn(t, v));
+            case 17: return differ(x.spread(t, n), m.spread(t, n));
+            case 18: case 19: return differ(x.undo(), m.undo());
+            case 20: return differ(x.match(t, p, u, q, v), m.match(t, p, u, q, v));
+            case 21: return differ(x.polish(t, p, v), m.polish(t, p, v));
+            case 22: return differ(x.tray(t, n), m.tray(t, n));
+            default: return differ(x.told(v), m.told(v));
         }
     }
 
-    private static String alike(String call, long got, long want) {
-        return got == want ? null : call + " answered " + got + ", due is " + want;
+    /** Whatever lays, shares or takes away rows is rare, so that rows have time to fill. */
+    private static boolean layDiffers(Bench x, Model m, Inputs in, int t) {
+        int kind = in.kind();
+        int length = in.length();
+        int u = in.tray();
+        int v = in.value();
+        switch (in.random.nextInt(8)) {
+            case 0: case 1: return differ(x.lay(t, kind, length), m.lay(t, kind, length));
+            case 2: case 3: return differ(x.share(t, u), m.share(t, u));
+            case 4: return differ(x.ticket(t, 1, v) ? 1 : 0, m.ticket(t, 1, v));
+            case 5: return in.random.nextInt(3) == 0 && differ(x.ticket(t, v, u) ? 1 : 0, m.ticket(t, v, u));
+            default: return false;
+        }
     }
 
-    /** All that can be seen of both; asking changes nothing, so it isn't counted among the calls. */
-    private static String state(BeadBench x, Model m) {
-        for (int w = 0; w < 8; w++) {
-            if (x.told(w) != m.told(w)) {
-                return "told " + w + " answered " + x.told(w) + ", due is " + m.told(w);
-            }
+    private static boolean fitMoveDiffers(Bench x, Model m, Inputs in, int t, int u) {
+        int p = in.random.nextInt(m.size(m.trays[t]) / 2 + 1);
+        int q = in.random.nextInt(m.size(m.trays[u]) / 2 + 1);
+        int most = Math.min(m.size(m.trays[t]) - p, m.size(m.trays[u]) - q);
+        int n = in.random.nextBoolean() ? most : in.random.nextInt(most + 1);
+        return differ(x.move(t, p, u, q, n), m.move(t, p, u, q, n));
+    }
+
+    private static boolean differ(long got, long want) {
+        if (got != want) {
+            System.out.println(Bench.story() + " answered " + got + ", due is " + want);
         }
-        for (int t = 0; t < 12; t++) {
-            if (x.tray(t, 0) != m.tray(t, 0) || x.tray(t, 1) != m.tray(t, 1)) {
-                return "tray " + t + " is another one";
-            }
-            for (int i = -1; i <= m.size(m.trays[t]); i++) {
-                if (x.what(t, i) != m.what(t, i) || x.at(t, i) != m.at(t, i) || x.polished(t, i) != m.polished(t, i)) {
-                    return "tray " + t + ", place " + i + " has " + x.what(t, i) + " " + x.at(t, i) + ", due is "
-                        + m.what(t, i) + " " + m.at(t, i);
-                }
-            }
-        }
-        return null;
+        return got != want;
+    }
+
+    /** One place, or a tray without one, and one count; a look at all would use up the calls of the object. */
+    private static boolean looksOther(Bench x, Model m, Inputs in) {
+        int t = in.random.nextInt(in.trays) % 12;
+        int i = in.random.nextInt(m.size(m.trays[t]) + 1);
+        int w = in.random.nextInt(8);
+        return differ(x.what(t, i), m.what(t, i)) || differ(x.at(t, i), m.at(t, i))
+            || differ(x.polished(t, i), m.polished(t, i)) || differ(x.told(w), m.told(w));
     }
 
     private static boolean runIsWrong(int run, int[] seen) {
-        BeadBench x = new BeadBench();
+        Bench x = new Bench();
         Model m = new Model();
         Inputs in = new Inputs(run);
         for (int t = in.random.nextInt(3); t < 12; t++) {
@@ -470,13 +462,9 @@ public final class BeadBenchAgainstArrays {
             x.lay(t, kind, length);
             m.lay(t, kind, length);
         }
-        for (int c = 0; c < CALLS; c++) {
-            String fault = call(x, m, in);
-            if (fault == null) {
-                fault = state(x, m);
-            }
-            if (fault != null) {
-                System.out.println("run " + run + ", call " + c + ": " + fault);
+        while (x.callsLeft() >= CALLS_OF_A_TURN) {
+            if (callDiffers(x, m, in) || (in.random.nextInt(3) == 0 && looksOther(x, m, in))) {
+                System.out.println("that was in run " + run);
                 return true;
             }
         }

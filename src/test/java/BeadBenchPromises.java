@@ -1,137 +1,96 @@
 /** One method for each promise of the document: ordinary inputs, the edges it names, and wrong inputs. */
-public final class BeadBenchPromises {
-    private static final int MISSING = BeadBench.MISSING, NO_ROW = BeadBench.NO_ROW, UNLIKE = BeadBench.UNLIKE;
-    private static final int PLACES = BeadBench.PLACES, STOPPED = BeadBench.STOPPED, BAD = BeadBench.BAD;
-    private static final int NOTCHES = 2, TINTS = 3, LETTERS = 4, STEPS = 5, WEIGHTS = 6, PRICES = 7, SIZES = 8;
-    private static final int LENGTHS = 9, BEADS = 10, STONES = 11, PEARLS = 12, BUNDLES = 13;
-    private static final int MIN = Integer.MIN_VALUE, MAX = Integer.MAX_VALUE;
-
-    private static int wrong = 0;
-    private static String promise = "";
-
-    private static void due(String call, long got, long want) {
-        if (got != want) {
-            wrong++;
-            System.out.println(promise + ": " + call + " answered " + got + ", due is " + want);
-        }
-    }
-
-    private static void due(String call, boolean got, boolean want) {
-        due(call, got ? 1 : 0, want ? 1 : 0);
-    }
-
-    /** The numbers that at() tells of a tray's row. */
-    private static void row(String call, BeadBench x, int tray, long... want) {
-        due(call + ": places", x.tray(tray, 1), want.length);
-        for (int i = 0; i < want.length; i++) {
-            due(call + ": at(" + tray + ", " + i + ")", x.at(tray, i), want[i]);
-        }
-    }
-
-    private static void fill(BeadBench x, int tray, int kind, int... values) {
-        x.lay(tray, kind, values.length);
-        for (int i = 0; i < values.length; i++) {
-            x.put(tray, i, values[i]);
-        }
-    }
-
-    private static BeadBench weights(int... values) {
-        BeadBench x = new BeadBench();
-        fill(x, 0, WEIGHTS, values);
-        return x;
-    }
-
+public final class BeadBenchPromises extends Checks {
     private static void newObject() {
-        promise = "1 a new object";
-        BeadBench x = new BeadBench();
+        sentence("1 a new object");
+        Bench x = new Bench();
         for (int t = 0; t < 12; t++) {
-            due("tray(" + t + ", 0)", x.tray(t, 0), 0);
-            due("tray(" + t + ", 1)", x.tray(t, 1), 0);
-            due("what(" + t + ", 0)", x.what(t, 0), MISSING);
+            due(x.tray(t, 0), 0);
+            due(x.tray(t, 1), 0);
+            due(x.what(t, 0), MISSING);
         }
         for (int w = 0; w < 8; w++) {
-            due("told(" + w + ")", x.told(w), 0);
+            due(x.told(w), 0);
         }
-        due("undo()", x.undo(), MISSING);
-        BeadBench y = weights(1);
+        due(x.undo(), MISSING);
+        Bench y = weights(1);
         due("another object's tray", x.tray(0, 0), 0);
         due("its own tray", y.tray(0, 0), WEIGHTS);
     }
 
     private static void lay() {
-        promise = "2 lay";
-        BeadBench x = new BeadBench();
+        sentence("2 lay");
+        Bench x = new Bench();
         for (int kind = 2; kind <= 13; kind++) {
-            due("lay(11, " + kind + ", 64)", x.lay(11, kind, 64), 64);
+            due(x.lay(11, kind, 64), 64);
             due("kind", x.tray(11, 0), kind);
             due("places", x.tray(11, 1), 64);
             due("first place", x.what(11, 0), kind <= LENGTHS ? 1 : 0);
             due("last place", x.what(11, 63), kind <= LENGTHS ? 1 : 0);
             due("at the last place", x.at(11, 63), 0);
         }
-        due("lay(0, 6, 0)", x.lay(0, WEIGHTS, 0), 0);
+        due(x.lay(0, WEIGHTS, 0), 0);
         due("a row of no places", x.tray(0, 0), WEIGHTS);
-        due("lay(0, 6, 65)", x.lay(0, WEIGHTS, 65), BAD);
-        due("lay(0, 6, -1)", x.lay(0, WEIGHTS, -1), BAD);
-        due("lay(0, 1, 1)", x.lay(0, 1, 1), BAD);
-        due("lay(0, 0, 1)", x.lay(0, 0, 1), BAD);
-        due("lay(0, 14, 1)", x.lay(0, 14, 1), BAD);
-        due("lay(12, 6, 1)", x.lay(12, WEIGHTS, 1), BAD);
-        due("lay(-1, 6, 1)", x.lay(-1, WEIGHTS, 1), BAD);
-        due("lay(MIN, MIN, MIN)", x.lay(MIN, MIN, MIN), BAD);
-        due("lay(0, 6, MAX)", x.lay(0, WEIGHTS, MAX), BAD);
+        due(x.lay(0, WEIGHTS, 65), BAD);
+        due(x.lay(0, WEIGHTS, -1), BAD);
+        due(x.lay(0, 1, 1), BAD);
+        due(x.lay(0, 0, 1), BAD);
+        due(x.lay(0, 14, 1), BAD);
+        due(x.lay(12, WEIGHTS, 1), BAD);
+        due(x.lay(-1, WEIGHTS, 1), BAD);
+        due(x.lay(MIN, MIN, MIN), BAD);
+        due(x.lay(0, WEIGHTS, MAX), BAD);
         due("what BAD left", x.tray(0, 1), 0);
-        fill(x, 1, WEIGHTS, 4, 5);
+        x.fill(1, WEIGHTS, 4, 5);
         x.share(1, 2);
         x.lay(1, WEIGHTS, 2);
-        row("a new row", x, 1, 0, 0);
-        row("the old row", x, 2, 4, 5);
+        row(x, 1, 0, 0);
+        row(x, 2, 4, 5);
     }
 
     private static void ticket() {
-        promise = "3 ticket";
-        BeadBench x = weights(1, 2);
-        due("ticket(0, 1, -7)", x.ticket(0, 1, -7), true);
-        due("tray(0, 0)", x.tray(0, 0), 1);
-        due("tray(0, 1)", x.tray(0, 1), -7);
-        due("ticket(0, 2, 5)", x.ticket(0, 2, 5), false);
-        due("ticket(0, -1, 5)", x.ticket(0, -1, 5), false);
-        due("ticket(12, 1, 5)", x.ticket(12, 1, 5), false);
-        due("ticket(-1, 0, 5)", x.ticket(-1, 0, 5), false);
+        sentence("3 ticket");
+        Bench x = weights(1, 2);
+        due(x.ticket(0, 1, -7), true);
+        due(x.tray(0, 0), 1);
+        due(x.tray(0, 1), -7);
+        due(x.ticket(0, 2, 5), false);
+        due(x.ticket(0, -1, 5), false);
+        due(x.ticket(12, 1, 5), false);
+        due(x.ticket(-1, 0, 5), false);
         due("what false left", x.tray(0, 1), -7);
-        due("ticket(0, 0, 9)", x.ticket(0, 0, 9), true);
+        due(x.ticket(0, 0, 9), true);
         due("EMPTY", x.tray(0, 0), 0);
         due("EMPTY has no number", x.tray(0, 1), 0);
-        due("ticket(11, 1, MIN)", x.ticket(11, 1, MIN), true);
-        due("tray(11, 1)", x.tray(11, 1), MIN);
+        due(x.ticket(11, 1, MIN), true);
+        due(x.tray(11, 1), MIN);
     }
 
     private static void share() {
-        promise = "4 share";
-        BeadBench x = weights(1, 2);
-        due("share(0, 11)", x.share(0, 11), WEIGHTS);
+        sentence("4 share");
+        Bench x = weights(1, 2);
+        due(x.share(0, 11), WEIGHTS);
         x.put(11, 1, 9);
-        row("put into the other tray", x, 0, 1, 9);
-        due("share(0, 0)", x.share(0, 0), WEIGHTS);
-        row("shared with itself", x, 0, 1, 9);
+        row(x, 0, 1, 9);
+        due(x.share(0, 0), WEIGHTS);
+        row(x, 0, 1, 9);
         x.ticket(1, 1, 33);
-        due("share(1, 2)", x.share(1, 2), 1);
+        due(x.share(1, 2), 1);
         due("the same TICKET", x.tray(2, 1), 33);
         x.ticket(1, 1, 34);
         due("a TICKET of its own", x.tray(2, 1), 33);
-        due("share(5, 0)", x.share(5, 0), 0);
+        due(x.share(5, 0), 0);
         due("EMPTY", x.tray(0, 0), 0);
-        row("the tray that still has it", x, 11, 1, 9);
-        due("share(12, 0)", x.share(12, 0), BAD);
-        due("share(0, 12)", x.share(0, 12), BAD);
-        due("share(-1, 0)", x.share(-1, 0), BAD);
-        due("share(0, -1)", x.share(0, -1), BAD);
+        row(x, 11, 1, 9);
+        due(x.share(12, 0), BAD);
+        due(x.share(0, 12), BAD);
+        due(x.share(-1, 0), BAD);
+        due(x.share(0, -1), BAD);
     }
 
     private static void putNumber(int kind, int v, long want) {
-        BeadBench x = new BeadBench();
+        Bench x = new Bench();
         x.lay(3, kind, 2);
-        due("put(3, 1, " + v + ") of kind " + kind, x.put(3, 1, v), 1);
+        due(x.put(3, 1, v), 1);
         due("what", x.what(3, 1), 1);
         due("at, kind " + kind + ", v " + v, x.at(3, 1), want);
         due("the other place", x.at(3, 0), 0);
@@ -139,7 +98,7 @@ public final class BeadBenchPromises {
     }
 
     private static void putNumbers() {
-        promise = "5 put, NUMBERS";
+        sentence("5 put, NUMBERS");
         putNumber(NOTCHES, 0, 0);
         putNumber(NOTCHES, 1, 1);
         putNumber(NOTCHES, 2, 1);
@@ -170,19 +129,19 @@ public final class BeadBenchPromises {
     }
 
     private static void putPieces() {
-        promise = "5 put, pieces";
-        BeadBench x = new BeadBench();
+        sentence("5 put, pieces");
+        Bench x = new Bench();
         x.lay(0, BEADS, 6);
         for (int v = 0; v < 5; v++) {
-            due("put(0, " + v + ", " + v + ")", x.put(0, v, v), 1);
-            due("what(0, " + v + ")", x.what(0, v), v == 0 ? 0 : v + 1);
+            due(x.put(0, v, v), 1);
+            due(x.what(0, v), v == 0 ? 0 : v + 1);
         }
-        row("numbers as they are made", x, 0, 0, 1, 2, 3, 4, 0);
-        due("put(0, 5, -1)", x.put(0, 5, -1), 1);
+        row(x, 0, 0, 1, 2, 3, 4, 0);
+        due(x.put(0, 5, -1), 1);
         due("-1 modulo 5 is a BLACK PEARL", x.what(0, 5), 5);
-        due("put(0, 5, MIN)", x.put(0, 5, MIN), 1);
+        due(x.put(0, 5, MIN), 1);
         due("MIN modulo 5 is a STONE", x.what(0, 5), 3);
-        due("put(0, 5, -5)", x.put(0, 5, -5), 1);
+        due(x.put(0, 5, -5), 1);
         due("NOTHING again", x.what(0, 5), 0);
         due("pieces", x.told(7), 6);
         due("no such place", x.put(0, 6, 2), PLACES);
@@ -207,10 +166,10 @@ public final class BeadBenchPromises {
     }
 
     private static void putRows() {
-        promise = "5 put, BUNDLES and refusals";
-        BeadBench x = weights(7, 8, 9);
+        sentence("5 put, BUNDLES and refusals");
+        Bench x = weights(7, 8, 9);
         x.lay(1, BUNDLES, 2);
-        due("put(1, 0, 0)", x.put(1, 0, 0), 1);
+        due(x.put(1, 0, 0), 1);
         due("a row", x.what(1, 0), 6);
         due("its places", x.at(1, 0), 3);
         x.put(0, 0, 10);
@@ -223,26 +182,26 @@ public final class BeadBenchPromises {
         for (int v : without) {
             x.lay(5, WEIGHTS, 1);
             x.put(1, 1, 5);
-            due("put(1, 1, " + v + ")", x.put(1, 1, v), 1);
+            due(x.put(1, 1, v), 1);
             due("NOTHING of " + v, x.what(1, 1), 0);
         }
-        due("put(1, 2, 5)", x.put(1, 2, 5), PLACES);
+        due(x.put(1, 2, 5), PLACES);
         due("pieces", x.told(7), 0);
-        due("put(12, 0, 1)", x.put(12, 0, 1), BAD);
-        due("put(-1, 0, 1)", x.put(-1, 0, 1), BAD);
-        due("put(4, 0, 1)", x.put(4, 0, 1), MISSING);
-        due("put(3, 0, 1)", x.put(3, 0, 1), NO_ROW);
-        due("put(2, 1, 1)", x.put(2, 1, 1), PLACES);
-        due("put(2, -1, 1)", x.put(2, -1, 1), PLACES);
-        due("put(2, MIN, 1)", x.put(2, MIN, 1), PLACES);
+        due(x.put(12, 0, 1), BAD);
+        due(x.put(-1, 0, 1), BAD);
+        due(x.put(4, 0, 1), MISSING);
+        due(x.put(3, 0, 1), NO_ROW);
+        due(x.put(2, 1, 1), PLACES);
+        due(x.put(2, -1, 1), PLACES);
+        due(x.put(2, MIN, 1), PLACES);
         for (int w = 1; w < 7; w++) {
             due("put is not told", x.told(w), 0);
         }
     }
 
     private static void moveRefused() {
-        promise = "6 move, refused";
-        BeadBench x = weights(1, 2, 3, 4);
+        sentence("6 move, refused");
+        Bench x = weights(1, 2, 3, 4);
         x.ticket(1, 1, 5);
         x.lay(3, PRICES, 4);
         x.lay(4, BEADS, 4);
@@ -269,43 +228,43 @@ public final class BeadBenchPromises {
         due("no such tray", x.move(-1, 0, 0, 0, 0), BAD);
         due("no such tray", x.move(0, 0, -1, 0, 0), BAD);
         due("all places and none", x.move(0, 4, 5, 3, 0), 0);
-        row("nothing came", x, 5, 0, 0, 0);
+        row(x, 5, 0, 0, 0);
     }
 
     private static void moveWell() {
-        promise = "6 move";
-        BeadBench x = weights(1, 2, 3, 4);
+        sentence("6 move");
+        Bench x = weights(1, 2, 3, 4);
         x.lay(1, WEIGHTS, 4);
         due("whole", x.move(0, 0, 1, 0, 4), 4);
-        row("whole", x, 1, 1, 2, 3, 4);
+        row(x, 1, 1, 2, 3, 4);
         due("forward in one row", x.move(0, 0, 0, 1, 3), 3);
-        row("forward in one row", x, 0, 1, 1, 2, 3);
+        row(x, 0, 1, 1, 2, 3);
         x.share(1, 2);
         due("back, through two trays of one row", x.move(1, 1, 2, 0, 3), 3);
-        row("back", x, 1, 2, 3, 4, 4);
+        row(x, 1, 2, 3, 4, 4);
         due("forward, through two trays of one row", x.move(2, 0, 1, 2, 2), 2);
-        row("forward", x, 2, 2, 3, 2, 3);
+        row(x, 2, 2, 3, 2, 3);
         for (int kind = NOTCHES; kind <= LENGTHS; kind++) {
-            fill(x, 3, kind, 1, 0, 1);
+            x.fill(3, kind, 1, 0, 1);
             x.lay(4, kind, 2);
             due("kind " + kind, x.move(3, 1, 4, 0, 2), 2);
-            row("kind " + kind, x, 4, 0, 1);
+            row(x, 4, 0, 1);
         }
     }
 
     private static void moveThings() {
-        promise = "6 move, THINGS";
-        BeadBench x = new BeadBench();
-        fill(x, 0, BEADS, 2, 0, 2, 3, 2);
+        sentence("6 move, THINGS");
+        Bench x = new Bench();
+        x.fill(0, BEADS, 2, 0, 2, 3, 2);
         x.lay(1, STONES, 5);
         x.put(1, 1, 2);
         x.put(1, 4, 2);
         due("STOPPED at the PEARL", x.move(0, 0, 1, 0, 5), STOPPED);
         due("FILLED", x.told(0), 3);
-        row("what came ahead of it stays", x, 1, 1, 0, 2, 0, 6);
+        row(x, 1, 1, 0, 2, 0, 6);
         due("STONES into BEADS", x.move(1, 0, 0, 2, 3), 3);
-        row("STONES into BEADS", x, 0, 1, 0, 1, 0, 2);
-        fill(x, 2, PEARLS, 3, 4);
+        row(x, 0, 1, 0, 1, 0, 2);
+        x.fill(2, PEARLS, 3, 4);
         x.lay(3, BEADS, 2);
         due("PEARLS into BEADS", x.move(2, 0, 3, 0, 2), 2);
         due("BEADS into PEARLS", x.move(3, 0, 2, 0, 2), 2);
@@ -318,8 +277,8 @@ public final class BeadBenchPromises {
         x.lay(4, STONES, 2);
         due("NOTHING goes anywhere", x.move(4, 0, 2, 0, 2), 2);
         due("NOTHING", x.what(2, 1), 0);
-        fill(x, 5, WEIGHTS, 1);
-        fill(x, 6, BUNDLES, 12, 5);
+        x.fill(5, WEIGHTS, 1);
+        x.fill(6, BUNDLES, 12, 5);
         due("BUNDLES into BEADS", x.move(6, 0, 3, 0, 2), STOPPED);
         due("FILLED", x.told(0), 1);
         due("NOTHING came", x.what(3, 0), 0);
@@ -329,59 +288,59 @@ public final class BeadBenchPromises {
         due("NOTHING into BUNDLES", x.move(0, 1, 6, 0, 1), 1);
         due("NOTHING", x.what(6, 0), 0);
         due("WEIGHTS into BUNDLES", x.move(5, 0, 6, 0, 1), UNLIKE);
-        fill(x, 7, BEADS, 1, 4);
+        x.fill(7, BEADS, 1, 4);
         x.lay(8, PEARLS, 2);
         due("PLAIN into PEARLS", x.move(7, 0, 8, 0, 2), STOPPED);
         due("what is behind it doesn't come", x.what(8, 1), 0);
     }
 
     private static void open() {
-        promise = "7 open";
-        BeadBench x = weights(1, 2, 3, 4, 5);
-        due("open(0, 1, 2)", x.open(0, 1, 2), 2);
-        row("open(0, 1, 2)", x, 0, 1, 2, 3, 2, 3);
+        sentence("7 open");
+        Bench x = weights(1, 2, 3, 4, 5);
+        due(x.open(0, 1, 2), 2);
+        row(x, 0, 1, 2, 3, 2, 3);
         due("FILLED", x.told(0), 2);
-        due("open(0, 0, 5)", x.open(0, 0, 5), 0);
-        due("open(0, 5, 0)", x.open(0, 5, 0), 0);
-        due("open(0, 2, 0)", x.open(0, 2, 0), 3);
-        due("open(0, 5, 1)", x.open(0, 5, 1), PLACES);
-        due("open(0, -1, 1)", x.open(0, -1, 1), PLACES);
-        due("open(0, 2, -1)", x.open(0, 2, -1), PLACES);
-        due("open(0, MAX, 1)", x.open(0, MAX, 1), PLACES);
-        due("open(0, MAX, MAX)", x.open(0, MAX, MAX), PLACES);
-        due("open(0, MIN, MIN)", x.open(0, MIN, MIN), PLACES);
-        row("what PLACES left", x, 0, 1, 2, 3, 2, 3);
-        due("open(12, 0, 0)", x.open(12, 0, 0), BAD);
-        due("open(-1, 0, 0)", x.open(-1, 0, 0), BAD);
+        due(x.open(0, 0, 5), 0);
+        due(x.open(0, 5, 0), 0);
+        due(x.open(0, 2, 0), 3);
+        due(x.open(0, 5, 1), PLACES);
+        due(x.open(0, -1, 1), PLACES);
+        due(x.open(0, 2, -1), PLACES);
+        due(x.open(0, MAX, 1), PLACES);
+        due(x.open(0, MAX, MAX), PLACES);
+        due(x.open(0, MIN, MIN), PLACES);
+        row(x, 0, 1, 2, 3, 2, 3);
+        due(x.open(12, 0, 0), BAD);
+        due(x.open(-1, 0, 0), BAD);
         due("EMPTY", x.open(1, 0, 0), MISSING);
         x.ticket(1, 1, 4);
         due("TICKET", x.open(1, 0, 0), NO_ROW);
         due("well", x.told(1), 4);
         due("PLACES", x.told(5), 6);
-        fill(x, 2, PEARLS, 3, 4, 0);
+        x.fill(2, PEARLS, 3, 4, 0);
         due("of PEARLS", x.open(2, 0, 1), 2);
-        row("of PEARLS", x, 2, 1, 1, 2);
+        row(x, 2, 1, 1, 2);
         x.lay(3, BEADS, 0);
         due("of no places", x.open(3, 0, 0), 0);
     }
 
     private static void close() {
-        promise = "8 close";
-        BeadBench x = weights(1, 2, 3, 4, 5);
-        due("close(0, 1, 2)", x.close(0, 1, 2), 2);
-        row("close(0, 1, 2)", x, 0, 1, 4, 5, 4, 5);
+        sentence("8 close");
+        Bench x = weights(1, 2, 3, 4, 5);
+        due(x.close(0, 1, 2), 2);
+        row(x, 0, 1, 4, 5, 4, 5);
         due("FILLED", x.told(0), 2);
-        due("close(0, 0, 1)", x.close(0, 0, 1), 4);
-        row("close(0, 0, 1)", x, 0, 4, 5, 4, 5, 5);
-        due("close(0, 0, 5)", x.close(0, 0, 5), 0);
-        due("close(0, 5, 0)", x.close(0, 5, 0), 0);
-        due("close(0, 5, 1)", x.close(0, 5, 1), PLACES);
-        due("close(0, -1, 1)", x.close(0, -1, 1), PLACES);
-        due("close(0, 2, -1)", x.close(0, 2, -1), PLACES);
-        due("close(0, MAX, MAX)", x.close(0, MAX, MAX), PLACES);
-        due("close(0, MIN, MIN)", x.close(0, MIN, MIN), PLACES);
-        due("close(12, 0, 0)", x.close(12, 0, 0), BAD);
-        due("close(-1, 0, 0)", x.close(-1, 0, 0), BAD);
+        due(x.close(0, 0, 1), 4);
+        row(x, 0, 4, 5, 4, 5, 5);
+        due(x.close(0, 0, 5), 0);
+        due(x.close(0, 5, 0), 0);
+        due(x.close(0, 5, 1), PLACES);
+        due(x.close(0, -1, 1), PLACES);
+        due(x.close(0, 2, -1), PLACES);
+        due(x.close(0, MAX, MAX), PLACES);
+        due(x.close(0, MIN, MIN), PLACES);
+        due(x.close(12, 0, 0), BAD);
+        due(x.close(-1, 0, 0), BAD);
         due("EMPTY", x.close(1, 0, 0), MISSING);
         x.ticket(1, 1, 4);
         due("TICKET", x.close(1, 0, 0), NO_ROW);
@@ -390,21 +349,21 @@ public final class BeadBenchPromises {
     }
 
     private static void turn() {
-        promise = "9 turn";
-        BeadBench x = weights(1, 2, 3, 4, 5);
-        due("turn(0, 2)", x.turn(0, 2), 5);
-        row("turn(0, 2)", x, 0, 3, 4, 5, 1, 2);
-        due("turn(0, -2)", x.turn(0, -2), 5);
-        row("turn(0, -2)", x, 0, 1, 2, 3, 4, 5);
-        due("turn(0, 5)", x.turn(0, 5), 5);
-        row("turn(0, 5)", x, 0, 1, 2, 3, 4, 5);
-        due("turn(0, MAX)", x.turn(0, MAX), 5);
-        row("turn(0, MAX), 2 round 5", x, 0, 3, 4, 5, 1, 2);
-        due("turn(0, MIN)", x.turn(0, MIN), 5);
-        row("turn(0, MIN), 2 round 5", x, 0, 5, 1, 2, 3, 4);
-        fill(x, 1, BEADS, 1, 0, 2);
+        sentence("9 turn");
+        Bench x = weights(1, 2, 3, 4, 5);
+        due(x.turn(0, 2), 5);
+        row(x, 0, 3, 4, 5, 1, 2);
+        due(x.turn(0, -2), 5);
+        row(x, 0, 1, 2, 3, 4, 5);
+        due(x.turn(0, 5), 5);
+        row(x, 0, 1, 2, 3, 4, 5);
+        due(x.turn(0, MAX), 5);
+        row(x, 0, 3, 4, 5, 1, 2);
+        due(x.turn(0, MIN), 5);
+        row(x, 0, 5, 1, 2, 3, 4);
+        x.fill(1, BEADS, 1, 0, 2);
         due("of BEADS", x.turn(1, 1), 3);
-        row("of BEADS", x, 1, 0, 2, 1);
+        row(x, 1, 0, 2, 1);
         x.lay(2, BUNDLES, 0);
         due("of no places", x.turn(2, 3), 0);
         due("EMPTY", x.turn(3, 0), MISSING);
@@ -418,20 +377,20 @@ public final class BeadBenchPromises {
     }
 
     private static void spread() {
-        promise = "10 spread";
-        BeadBench x = weights(1, 2, 3, 4, 5, 6, 7, 8);
-        due("spread(0, 8)", x.spread(0, 8), 8);
-        row("spread(0, 8)", x, 0, 1, 2, 3, 4, 5, 6, 7, 8);
-        due("spread(0, 3)", x.spread(0, 3), 8);
-        row("spread(0, 3)", x, 0, 1, 2, 3, 1, 2, 3, 1, 2);
-        due("spread(0, 1)", x.spread(0, 1), 8);
-        row("spread(0, 1)", x, 0, 1, 1, 1, 1, 1, 1, 1, 1);
-        due("spread(0, 0)", x.spread(0, 0), PLACES);
-        due("spread(0, 9)", x.spread(0, 9), PLACES);
-        due("spread(0, MIN)", x.spread(0, MIN), PLACES);
-        fill(x, 1, STONES, 2, 0, 0);
+        sentence("10 spread");
+        Bench x = weights(1, 2, 3, 4, 5, 6, 7, 8);
+        due(x.spread(0, 8), 8);
+        row(x, 0, 1, 2, 3, 4, 5, 6, 7, 8);
+        due(x.spread(0, 3), 8);
+        row(x, 0, 1, 2, 3, 1, 2, 3, 1, 2);
+        due(x.spread(0, 1), 8);
+        row(x, 0, 1, 1, 1, 1, 1, 1, 1, 1);
+        due(x.spread(0, 0), PLACES);
+        due(x.spread(0, 9), PLACES);
+        due(x.spread(0, MIN), PLACES);
+        x.fill(1, STONES, 2, 0, 0);
         due("of STONES", x.spread(1, 2), 3);
-        row("of STONES", x, 1, 1, 0, 1);
+        row(x, 1, 1, 0, 1);
         x.lay(2, WEIGHTS, 0);
         due("of no places", x.spread(2, 0), PLACES);
         due("of no places", x.spread(2, 1), PLACES);
@@ -445,24 +404,24 @@ public final class BeadBenchPromises {
     }
 
     private static void undo() {
-        promise = "11 undo";
-        BeadBench x = weights(1, 2, 3);
+        sentence("11 undo");
+        Bench x = weights(1, 2, 3);
         due("put is none", x.undo(), MISSING);
         x.turn(0, 1);
         x.put(0, 0, 77);
         due("undo() of turn", x.undo(), 3);
-        row("undo() of turn", x, 0, 1, 2, 3);
+        row(x, 0, 1, 2, 3);
         due("a second one", x.undo(), MISSING);
         x.spread(0, 1);
         x.open(0, 0, 1);
         x.undo();
-        row("the latest alone", x, 0, 1, 1, 1);
-        fill(x, 0, WEIGHTS, 1, 2, 3);
+        row(x, 0, 1, 1, 1);
+        x.fill(0, WEIGHTS, 1, 2, 3);
         x.close(0, 0, 1);
         x.share(0, 4);
         x.lay(0, BEADS, 2);
         due("undo() of close, in another tray", x.undo(), 3);
-        row("undo() of close", x, 4, 1, 2, 3);
+        row(x, 4, 1, 2, 3);
         due("the tray's new row stays", x.tray(0, 0), BEADS);
         x.move(4, 0, 4, 1, 2);
         due("BAD is none", x.move(4, 0, 12, 0, 0), BAD);
@@ -471,23 +430,23 @@ public final class BeadBenchPromises {
         due("BAD is none", x.open(-1, 0, 0), BAD);
         due("BAD is none", x.close(-1, 0, 0), BAD);
         due("undo() behind BAD", x.undo(), 3);
-        row("undo() behind BAD", x, 4, 1, 2, 3);
+        row(x, 4, 1, 2, 3);
         x.lay(5, WEIGHTS, 0);
         x.turn(5, 1);
         due("of no places", x.undo(), 0);
         x.turn(4, 1);
         x.ticket(4, 0, 0);
         due("in no tray at all", x.undo(), 3);
-        fill(x, 6, WEIGHTS, 1, 2, 3);
-        fill(x, 7, BUNDLES, 6, 12);
+        x.fill(6, WEIGHTS, 1, 2, 3);
+        x.fill(7, BUNDLES, 6, 12);
         x.turn(6, 1);
         x.undo();
         due("seen in a bundle", x.polished(7, 0), 6);
     }
 
     private static void undoRefused() {
-        promise = "11 undo, refused";
-        BeadBench x = weights(1, 2, 3);
+        sentence("11 undo, refused");
+        Bench x = weights(1, 2, 3);
         x.ticket(2, 1, 3);
         x.turn(0, 1);
         x.turn(1, 1);
@@ -500,41 +459,41 @@ public final class BeadBenchPromises {
         due("into EMPTY", x.undo(), MISSING);
         x.move(0, 0, 2, 0, 1);
         due("into a TICKET", x.undo(), MISSING);
-        fill(x, 0, WEIGHTS, 1, 2, 3);
+        x.fill(0, WEIGHTS, 1, 2, 3);
         int[] from = {1, 2, 3, 0};
         x.lay(3, PRICES, 1);
         for (int f : from) {
             due("refused from " + f, x.move(f, 9, 0, 0, 1) < 0, true);
             x.put(0, 1, 50);
             due("undo() of it", x.undo(), 3);
-            row("what was put since is taken back", x, 0, 1, 2, 3);
+            row(x, 0, 1, 2, 3);
         }
         x.spread(0, 0);
         x.put(0, 2, 50);
         due("undo() of a refused spread", x.undo(), 3);
-        row("undo() of a refused spread", x, 0, 1, 2, 3);
-        fill(x, 4, BEADS, 2, 2, 1);
+        row(x, 0, 1, 2, 3);
+        x.fill(4, BEADS, 2, 2, 1);
         x.lay(5, STONES, 3);
         due("STOPPED", x.move(4, 0, 5, 0, 3), STOPPED);
         x.polish(4, 0, 8);
         due("undo() of a STOPPED one", x.undo(), 3);
-        row("undo() of a STOPPED one", x, 5, 0, 0, 0);
+        row(x, 5, 0, 0, 0);
         due("POLISH stays", x.polished(4, 0), 8);
         due("FILLED stays", x.told(0), 2);
         due("STOPPED stays told", x.told(6), 1);
     }
 
     private static void match() {
-        promise = "12 match";
-        BeadBench x = weights(1, 2, 3, 4);
-        fill(x, 1, WEIGHTS, 2, 3, 5);
-        due("match(0, 1, 1, 0, 4)", x.match(0, 1, 1, 0, 4), 2);
+        sentence("12 match");
+        Bench x = weights(1, 2, 3, 4);
+        x.fill(1, WEIGHTS, 2, 3, 5);
+        due(x.match(0, 1, 1, 0, 4), 2);
         due("at most n", x.match(0, 1, 1, 0, 1), 1);
         due("n 0", x.match(0, 1, 1, 0, 0), 0);
         due("none alike", x.match(0, 0, 1, 0, 4), 0);
         due("with itself, any n", x.match(0, 0, 0, 0, MAX), 4);
         due("as far as both go", x.match(0, 2, 1, 1, 9), 1);
-        fill(x, 6, WEIGHTS, 3, 4, 0);
+        x.fill(6, WEIGHTS, 3, 4, 0);
         due("up to the end of the first", x.match(0, 2, 6, 0, 9), 2);
         due("up to the end of the second", x.match(6, 0, 0, 2, 9), 2);
         due("at both ends", x.match(0, 4, 1, 3, 1), 0);
@@ -553,15 +512,15 @@ public final class BeadBenchPromises {
         due("MISSING", x.match(3, 0, 4, 0, 1), MISSING);
         due("BAD", x.match(12, 0, 0, 0, 1), BAD);
         due("BAD", x.match(0, 0, -1, 0, 1), BAD);
-        fill(x, 5, BEADS, 0, 2, 2);
+        x.fill(5, BEADS, 0, 2, 2);
         x.lay(6, STONES, 3);
         x.move(5, 0, 6, 0, 2);
         x.put(6, 2, 2);
         due("NOTHING and the same STONE, not a like one", x.match(5, 0, 6, 0, 3), 2);
-        fill(x, 7, WEIGHTS, 1);
-        fill(x, 8, WEIGHTS, 1);
-        fill(x, 9, BUNDLES, 12, 7, 7);
-        fill(x, 10, BUNDLES, 12, 7, 8);
+        x.fill(7, WEIGHTS, 1);
+        x.fill(8, WEIGHTS, 1);
+        x.fill(9, BUNDLES, 12, 7, 7);
+        x.fill(10, BUNDLES, 12, 7, 8);
         due("the same row, not a like one", x.match(9, 0, 10, 0, 3), 2);
         due("NOTHING of BUNDLES and BEADS", x.match(9, 0, 5, 0, 3), 1);
         due("match is not told", x.told(1), 1);
@@ -569,14 +528,14 @@ public final class BeadBenchPromises {
     }
 
     private static void polish() {
-        promise = "13 polish";
-        BeadBench x = new BeadBench();
-        fill(x, 0, BEADS, 1, 3, 0);
-        due("polish(0, 1, MAX)", x.polish(0, 1, MAX), 2);
-        due("polish(0, 1, 2)", x.polish(0, 1, 2), 2);
+        sentence("13 polish");
+        Bench x = new Bench();
+        x.fill(0, BEADS, 1, 3, 0);
+        due(x.polish(0, 1, MAX), 2);
+        due(x.polish(0, 1, 2), 2);
         due("going round", x.polished(0, 1), MIN + 1);
         due("the other piece", x.polished(0, 0), 0);
-        due("polish(0, 0, -3)", x.polish(0, 0, -3), 1);
+        due(x.polish(0, 0, -3), 1);
         due("below 0", x.polished(0, 0), -3);
         due("NOTHING", x.polish(0, 2, 1), MISSING);
         due("PLACES", x.polish(0, 3, 1), PLACES);
@@ -590,16 +549,16 @@ public final class BeadBenchPromises {
         due("TICKET", x.polish(2, 0, 1), NO_ROW);
         due("BAD", x.polish(12, 0, 1), BAD);
         due("BAD", x.polish(-1, 0, 1), BAD);
-        fill(x, 3, STONES, 2);
+        x.fill(3, STONES, 2);
         due("of STONES", x.polish(3, 0, 4), 3);
         due("of STONES", x.polished(3, 0), 4);
-        fill(x, 4, PEARLS, 4);
+        x.fill(4, PEARLS, 4);
         due("of PEARLS", x.polish(4, 0, 4), 4);
     }
 
     private static void tray() {
-        promise = "14 tray";
-        BeadBench x = weights(1, 2, 3);
+        sentence("14 tray");
+        Bench x = weights(1, 2, 3);
         x.ticket(1, 1, -6);
         due("kind of a row", x.tray(0, 0), WEIGHTS);
         due("places of a row", x.tray(0, 1), 3);
@@ -607,17 +566,17 @@ public final class BeadBenchPromises {
         due("number of a TICKET", x.tray(1, 1), -6);
         due("EMPTY", x.tray(11, 0), 0);
         due("places of EMPTY", x.tray(11, 1), 0);
-        due("tray(0, 2)", x.tray(0, 2), BAD);
-        due("tray(0, -1)", x.tray(0, -1), BAD);
-        due("tray(12, 0)", x.tray(12, 0), BAD);
-        due("tray(-1, 1)", x.tray(-1, 1), BAD);
+        due(x.tray(0, 2), BAD);
+        due(x.tray(0, -1), BAD);
+        due(x.tray(12, 0), BAD);
+        due(x.tray(-1, 1), BAD);
     }
 
     private static void what() {
-        promise = "15 what";
-        BeadBench x = weights(1);
-        fill(x, 1, BEADS, 0, 1, 2, 3, 4);
-        fill(x, 2, BUNDLES, 0, 12);
+        sentence("15 what");
+        Bench x = weights(1);
+        x.fill(1, BEADS, 0, 1, 2, 3, 4);
+        x.fill(2, BUNDLES, 0, 12);
         x.ticket(3, 1, 1);
         due("a NUMBER", x.what(0, 0), 1);
         due("NOTHING", x.what(1, 0), 0);
@@ -636,14 +595,14 @@ public final class BeadBenchPromises {
     }
 
     private static void at() {
-        promise = "16 at";
-        BeadBench x = weights(-9, 4);
-        fill(x, 1, BEADS, 1, 0, 4);
-        fill(x, 2, BUNDLES, 0, 12);
+        sentence("16 at");
+        Bench x = weights(-9, 4);
+        x.fill(1, BEADS, 1, 0, 4);
+        x.fill(2, BUNDLES, 0, 12);
         x.ticket(3, 1, 5);
-        row("NUMBERS", x, 0, -9, 4);
-        row("pieces", x, 1, 1, 0, 2);
-        row("rows", x, 2, 2, 0);
+        row(x, 0, -9, 4);
+        row(x, 1, 1, 0, 2);
+        row(x, 2, 2, 0);
         due("BAD", x.at(12, 0), 0);
         due("BAD", x.at(-1, 0), 0);
         due("MISSING", x.at(4, 0), 0);
@@ -653,12 +612,12 @@ public final class BeadBenchPromises {
     }
 
     private static void polished() {
-        promise = "17 polished";
-        BeadBench x = weights(MAX, 1, 5);
-        fill(x, 1, BEADS, 1, 0);
+        sentence("17 polished");
+        Bench x = weights(MAX, 1, 5);
+        x.fill(1, BEADS, 1, 0);
         x.polish(1, 0, 6);
         x.lay(5, WEIGHTS, 0);
-        fill(x, 2, BUNDLES, 0, 12, 5);
+        x.fill(2, BUNDLES, 0, 12, 5);
         x.ticket(3, 1, 5);
         due("a piece", x.polished(1, 0), 6);
         due("NOTHING", x.polished(1, 1), 0);
@@ -675,11 +634,11 @@ public final class BeadBenchPromises {
     }
 
     private static void told() {
-        promise = "18 told";
-        BeadBench x = weights(1, 2, 3);
+        sentence("18 told");
+        Bench x = weights(1, 2, 3);
         x.ticket(1, 1, 1);
         x.lay(3, PRICES, 3);
-        fill(x, 4, BEADS, 3, 2, 1);
+        x.fill(4, BEADS, 3, 2, 1);
         x.lay(5, PEARLS, 3);
         x.move(0, 0, 0, 1, 2);
         due("FILLED", x.told(0), 2);
@@ -715,10 +674,10 @@ public final class BeadBenchPromises {
         due("PLACES", x.told(5), 1);
         due("STOPPED", x.told(6), 2);
         due("pieces made", x.told(7), 3);
-        due("told(8)", x.told(8), BAD);
-        due("told(-1)", x.told(-1), BAD);
-        due("told(MIN)", x.told(MIN), BAD);
-        due("told(MAX)", x.told(MAX), BAD);
+        due(x.told(8), BAD);
+        due(x.told(-1), BAD);
+        due(x.told(MIN), BAD);
+        due(x.told(MAX), BAD);
     }
 
     public static void main(String[] args) {
@@ -745,9 +704,6 @@ public final class BeadBenchPromises {
         at();
         polished();
         told();
-        System.out.println(wrong == 0 ? "all answers are as due" : wrong + " answers are not as due");
-        if (wrong != 0) {
-            System.exit(1);
-        }
+        end();
     }
 }
