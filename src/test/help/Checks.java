@@ -81,6 +81,11 @@ abstract class Checks {
         return x;
     }
 
+    /** Whether n places from the first on are all among the m that a row has. */
+    static boolean fits(int first, int n, int m) {
+        return first >= 0 && n >= 0 && (long) first + n <= m;
+    }
+
     static void end() {
         String outcome = wrong == 0 ? "all answers are as due" : wrong + " answers are not as due";
         System.out.println(SENTENCES.size() + " sentences, " + outcome);

@@ -140,6 +140,34 @@ public final class BeadBenchBounds extends Checks {
         }
     }
 
+    private static void newRow() {
+        sentence("lay: a new row: NUMBERS are 0 at first, and the old row is as it was");
+        Bench x = weights(4, 5);
+        x.share(0, 11);
+        due(x.lay(0, WEIGHTS, 2), 2);
+        row(x, 0, 0, 0);
+        row(x, 11, 4, 5);
+        sentence("lay: a new row: NOTHING at first, and the old row is as it was");
+        Bench y = new Bench();
+        y.fill(0, BEADS, STONE, PEARL);
+        y.share(0, 11);
+        due(y.lay(0, BEADS, 2), 2);
+        due(y.what(0, 0), 0);
+        due(y.what(0, 1), 0);
+        row(y, 11, 1, 2);
+        sentence("share: the same row, what is put into it is seen in all of its trays");
+        due(y.share(11, 5), BEADS);
+        y.put(5, 0, PLAIN);
+        row(y, 11, 3, 2);
+        sentence("share: EMPTY too");
+        due(y.share(9, 11), 0);
+        due(y.tray(11, 0), 0);
+        row(y, 5, 3, 2);
+        sentence("share: with itself");
+        due(y.share(5, 5), BEADS);
+        row(y, 5, 3, 2);
+    }
+
     private static void numberOfPlaces() {
         sentence("lay: n is not 0 .. 64");
         for (int kind = 2; kind <= 13; kind++) {
@@ -189,10 +217,6 @@ public final class BeadBenchBounds extends Checks {
                 due(x.polished(4, 1), 0);
             }
         }
-    }
-
-    private static boolean fits(int first, int n, int m) {
-        return first >= 0 && n >= 0 && first + n <= m;
     }
 
     /** Every p, q and n from below 0 to beyond the ends, for rows of 0 to 3 places. */
@@ -435,6 +459,7 @@ public final class BeadBenchBounds extends Checks {
         traysThatAreAsked();
         trayOfBundle();
         kindsAndWhats();
+        newRow();
         numberOfPlaces();
         onePlace();
         placesOfMove();

@@ -1,8 +1,9 @@
 /** Ints that go round, sums that must not, and calls that take any int. */
 public final class BeadBenchInts extends Checks {
-    private static final int[] ANY = {MIN, MIN + 1, MIN + 2, -65537, -65536, -32769, -32768, -257, -256, -129, -128, -65,
-        -64, -6, -5, -4, -3, -2, -1, 0, 1, 2, 3, 4, 5, 6, 11, 12, 63, 64, 65, 127, 128, 255, 256, 32767, 32768, 65535,
-        65536, 16777215, 16777216, 16777217, 16777219, MAX - 64, MAX - 63, MAX - 1, MAX};
+    private static final int[] ANY = {
+        MIN, MIN + 1, MIN + 2, -65537, -65536, -32769, -32768, -257, -256, -129, -128, -65, -64, -6, -5, -4, -3, -2,
+        -1, 0, 1, 2, 3, 4, 5, 6, 11, 12, 63, 64, 65, 127, 128, 255, 256, 32767, 32768, 65535, 65536, 16777215,
+        16777216, 16777217, 16777219, MAX - 64, MAX - 63, MAX - 1, MAX};
 
     /** Both rows are of m places; a sum of p and n, or q and n, that went round would be small enough. */
     private static void tooFar(int m, int p, int q, int n) {
@@ -39,10 +40,6 @@ public final class BeadBenchInts extends Checks {
             tooFar(m, 0, MIN, MIN);
             tooFar(m, -1, -1, MIN);
         }
-    }
-
-    private static boolean fits(int first, int n, int m) {
-        return first >= 0 && n >= 0 && (long) first + n <= m;
     }
 
     private static void round(String words, Call call, int m, int p, int q, int n) {

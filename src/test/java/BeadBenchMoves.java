@@ -131,20 +131,21 @@ public final class BeadBenchMoves extends Checks {
         due(x.told(0), 0);
         x.close(0, 0, 0);
         due(x.told(0), 4);
-        sentence("told: FILLED is not of turn(), spread(), undo() or match()");
-        x.turn(0, 1);
-        x.spread(0, 2);
-        x.spread(0, 0);
-        x.turn(5, 0);
-        x.undo();
-        x.match(0, 0, 0, 0, 1);
-        due(x.told(0), 4);
+        x.close(0, 1, 0);
+        due(x.told(0), 3);
+        sentence("told: FILLED is not of turn(), spread(), undo() or match(), well or refused");
+        Call[] others = {b -> b.turn(0, 1), b -> b.turn(5, 1), b -> b.spread(0, 2), b -> b.spread(0, 0), Bench::undo,
+            Bench::undo, b -> b.match(0, 0, 0, 0, 1), b -> b.match(0, -1, 0, 0, 1)};
+        for (Call other : others) {
+            other.on(x);
+            due(x.told(0), 3);
+        }
         sentence("told: FILLED: BAD tries none");
         x.move(12, 0, 0, 0, 1);
         x.move(0, 0, -1, 0, 1);
         x.open(-1, 0, 0);
         x.close(12, 0, 0);
-        due(x.told(0), 4);
+        due(x.told(0), 3);
         sentence("told: FILLED is 0 when it was refused otherwise");
         x.open(0, 5, 0);
         due(x.told(0), 0);

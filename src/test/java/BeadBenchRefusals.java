@@ -150,114 +150,72 @@ public final class BeadBenchRefusals extends Checks {
         leavesAll(x -> x.told(8), BAD);
     }
 
-    private static void missing() {
-        sentence("MOVE: MISSING: a is EMPTY");
-        move(x -> x.move(EMPTY, 0, OF_WEIGHTS, 0, 0), MISSING, 3);
-        move(x -> x.move(EMPTY, 0, OF_BUNDLES, 0, 1), MISSING, 2);
-        sentence("MOVE: MISSING: b is EMPTY");
-        move(x -> x.move(OF_WEIGHTS, 0, EMPTY, 0, 0), MISSING, MISSING);
-        move(x -> x.move(OF_BEADS, 0, EMPTY, 0, 1), MISSING, MISSING);
-        sentence("MOVE: MISSING: a and b are EMPTY");
-        move(x -> x.move(EMPTY, 0, EMPTY_TOO, 0, 0), MISSING, MISSING);
-        move(x -> x.move(EMPTY, 0, EMPTY, 0, 0), MISSING, MISSING);
-        sentence("open, close: refused as MISSING");
-        move(x -> x.open(EMPTY, 0, 0), MISSING, MISSING);
-        move(x -> x.close(EMPTY, 0, 0), MISSING, MISSING);
-        sentence("turn, spread: MISSING");
-        other(x -> x.turn(EMPTY, 1), MISSING, MISSING);
-        other(x -> x.spread(EMPTY, 1), MISSING, MISSING);
-        sentence("put, what, at, polished: MISSING");
-        leavesAll(x -> x.put(EMPTY, 0, PLAIN), MISSING);
-        leavesAll(x -> x.what(EMPTY, 0), MISSING);
-        leavesAll(x -> (int) x.at(EMPTY, 0), 0);
-        leavesAll(x -> x.polished(EMPTY, 0), 0);
-        sentence("match: MISSING");
-        leavesAll(x -> x.match(EMPTY, 0, OF_WEIGHTS, 0, 1), MISSING);
-        leavesAll(x -> x.match(OF_WEIGHTS, 0, EMPTY, 0, 1), MISSING);
-        leavesAll(x -> x.match(EMPTY, 0, EMPTY, 0, 0), MISSING);
-        sentence("polish: MISSING: EMPTY");
-        leavesAll(x -> x.polish(EMPTY, 0, 1), MISSING);
-        sentence("polish: MISSING: NOTHING there");
-        leavesAll(x -> x.polish(OF_BEADS, 1, 1), MISSING);
-        leavesAll(x -> x.polish(OF_STONES, 1, 1), MISSING);
+    /** MISSING of an EMPTY tray and NO_ROW of a TICKET, by each call that wants a row. */
+    private static void withoutRow(String name, int tray, int answer) {
+        sentence("MOVE: " + name + ": a has no row");
+        move(x -> x.move(tray, 0, OF_WEIGHTS, 0, 0), answer, 3);
+        move(x -> x.move(tray, 0, OF_BUNDLES, 0, 1), answer, 2);
+        sentence("MOVE: " + name + ": b has no row");
+        move(x -> x.move(OF_WEIGHTS, 0, tray, 0, 0), answer, MISSING);
+        move(x -> x.move(OF_BEADS, 0, tray, 0, 1), answer, MISSING);
+        sentence("MOVE: " + name + ": neither has a row");
+        move(x -> x.move(tray, 0, tray, 0, 0), answer, MISSING);
+        sentence("open, close: refused as " + name + ", whatever a TICKET's number is");
+        move(x -> x.open(tray, 0, 0), answer, MISSING);
+        move(x -> x.open(tray, 7, 0), answer, MISSING);
+        move(x -> x.close(tray, 0, 0), answer, MISSING);
+        move(x -> x.close(tray, 0, 7), answer, MISSING);
+        sentence("turn, spread: " + name);
+        other(x -> x.turn(tray, 1), answer, MISSING);
+        other(x -> x.spread(tray, 1), answer, MISSING);
+        sentence("put: " + name + ", and no piece is made");
+        leavesAll(x -> x.put(tray, 0, PLAIN), answer);
+        sentence("what: " + name + "; at, polished: 0");
+        leavesAll(x -> x.what(tray, 0), answer);
+        leavesAll(x -> (int) x.at(tray, 0), 0);
+        leavesAll(x -> x.polished(tray, 0), 0);
+        sentence("match: " + name);
+        leavesAll(x -> x.match(tray, 0, OF_WEIGHTS, 0, 1), answer);
+        leavesAll(x -> x.match(OF_WEIGHTS, 0, tray, 0, 1), answer);
+        leavesAll(x -> x.match(tray, 0, tray, 0, 0), answer);
+        sentence("polish: " + name);
+        leavesAll(x -> x.polish(tray, 0, 1), answer);
     }
 
-    private static void missingFirst() {
+    /** The other row has NUMBERS too, so that MISSING and NO_ROW come ahead of UNLIKE as well. */
+    private static void withoutRowAheadOfPlaces(String name, int tray, int answer) {
+        sentence("MOVE: " + name + " ahead of PLACES");
+        move(x -> x.move(tray, -1, OF_WEIGHTS, 0, 1), answer, 3);
+        move(x -> x.move(tray, 0, OF_WEIGHTS, 4, 1), answer, 3);
+        move(x -> x.move(OF_WEIGHTS, 0, tray, 0, -1), answer, MISSING);
+        sentence("open, close: " + name + " ahead of PLACES");
+        move(x -> x.open(tray, -1, 1), answer, MISSING);
+        move(x -> x.open(tray, 8, 0), answer, MISSING);
+        move(x -> x.close(tray, 0, 8), answer, MISSING);
+        move(x -> x.close(tray, MAX, 1), answer, MISSING);
+        sentence("spread: " + name + " ahead of PLACES");
+        other(x -> x.spread(tray, 0), answer, MISSING);
+        other(x -> x.spread(tray, 8), answer, MISSING);
+        sentence("put, what, match, polish: " + name + " ahead of PLACES");
+        leavesAll(x -> x.put(tray, -1, PLAIN), answer);
+        leavesAll(x -> x.what(tray, -1), answer);
+        leavesAll(x -> x.match(tray, -1, OF_WEIGHTS, 0, 1), answer);
+        leavesAll(x -> x.match(OF_WEIGHTS, 0, tray, 0, -1), answer);
+        leavesAll(x -> x.polish(tray, -1, 1), answer);
+    }
+
+    private static void missing() {
+        sentence("MOVE: MISSING: two EMPTY trays");
+        move(x -> x.move(EMPTY, 0, EMPTY_TOO, 0, 0), MISSING, MISSING);
         sentence("MOVE: MISSING ahead of NO_ROW");
         move(x -> x.move(EMPTY, 0, A_TICKET, 0, 0), MISSING, MISSING);
         move(x -> x.move(A_TICKET, 0, EMPTY, 0, 0), MISSING, MISSING);
         sentence("match: MISSING ahead of NO_ROW");
         leavesAll(x -> x.match(EMPTY, 0, A_TICKET, 0, 0), MISSING);
         leavesAll(x -> x.match(A_TICKET, 0, EMPTY, 0, 0), MISSING);
-        sentence("MOVE: MISSING ahead of PLACES");
-        move(x -> x.move(EMPTY, -1, OF_WEIGHTS, 0, 1), MISSING, 3);
-        move(x -> x.move(EMPTY, 0, OF_WEIGHTS, 4, 1), MISSING, 3);
-        move(x -> x.move(OF_WEIGHTS, 0, EMPTY, 0, -1), MISSING, MISSING);
-        sentence("open, close: MISSING ahead of PLACES");
-        move(x -> x.open(EMPTY, 1, 0), MISSING, MISSING);
-        move(x -> x.open(EMPTY, -1, 1), MISSING, MISSING);
-        move(x -> x.close(EMPTY, 0, 1), MISSING, MISSING);
-        move(x -> x.close(EMPTY, MAX, 1), MISSING, MISSING);
-        sentence("spread: MISSING ahead of PLACES");
-        other(x -> x.spread(EMPTY, 0), MISSING, MISSING);
-        other(x -> x.spread(EMPTY, -1), MISSING, MISSING);
-        sentence("put, what, match, polish: MISSING ahead of PLACES");
-        leavesAll(x -> x.put(EMPTY, -1, PLAIN), MISSING);
-        leavesAll(x -> x.what(EMPTY, -1), MISSING);
-        leavesAll(x -> x.match(EMPTY, -1, OF_WEIGHTS, 0, 1), MISSING);
-        leavesAll(x -> x.match(OF_WEIGHTS, 0, EMPTY, 0, -1), MISSING);
-        leavesAll(x -> x.polish(EMPTY, -1, 1), MISSING);
-    }
-
-    private static void noRow() {
-        sentence("MOVE: NO_ROW: a is a TICKET");
-        move(x -> x.move(A_TICKET, 0, OF_WEIGHTS, 0, 0), NO_ROW, 3);
-        move(x -> x.move(A_TICKET, 0, OF_BEADS, 0, 1), NO_ROW, 3);
-        sentence("MOVE: NO_ROW: b is a TICKET");
-        move(x -> x.move(OF_WEIGHTS, 0, A_TICKET, 0, 0), NO_ROW, MISSING);
-        move(x -> x.move(OF_STONES, 0, A_TICKET, 0, 1), NO_ROW, MISSING);
-        sentence("MOVE: NO_ROW: a and b are a TICKET");
-        move(x -> x.move(A_TICKET, 0, A_TICKET, 0, 0), NO_ROW, MISSING);
-        sentence("open, close: refused as NO_ROW, whatever the TICKET's number");
-        move(x -> x.open(A_TICKET, 0, 0), NO_ROW, MISSING);
-        move(x -> x.open(A_TICKET, 7, 0), NO_ROW, MISSING);
-        move(x -> x.close(A_TICKET, 0, 0), NO_ROW, MISSING);
-        move(x -> x.close(A_TICKET, 0, 7), NO_ROW, MISSING);
-        sentence("turn, spread: NO_ROW");
-        other(x -> x.turn(A_TICKET, 1), NO_ROW, MISSING);
-        other(x -> x.spread(A_TICKET, 1), NO_ROW, MISSING);
-        sentence("put, what, at, polished: NO_ROW");
-        leavesAll(x -> x.put(A_TICKET, 0, PLAIN), NO_ROW);
-        leavesAll(x -> x.what(A_TICKET, 0), NO_ROW);
-        leavesAll(x -> (int) x.at(A_TICKET, 0), 0);
-        leavesAll(x -> x.polished(A_TICKET, 0), 0);
-        sentence("match: NO_ROW");
-        leavesAll(x -> x.match(A_TICKET, 0, OF_WEIGHTS, 0, 1), NO_ROW);
-        leavesAll(x -> x.match(OF_WEIGHTS, 0, A_TICKET, 0, 1), NO_ROW);
-        leavesAll(x -> x.match(A_TICKET, 0, A_TICKET, 0, 0), NO_ROW);
-        sentence("polish: NO_ROW");
-        leavesAll(x -> x.polish(A_TICKET, 0, 1), NO_ROW);
-    }
-
-    private static void noRowFirst() {
-        sentence("MOVE: NO_ROW ahead of PLACES");
-        move(x -> x.move(A_TICKET, -1, OF_WEIGHTS, 0, 1), NO_ROW, 3);
-        move(x -> x.move(A_TICKET, 0, OF_WEIGHTS, 4, 1), NO_ROW, 3);
-        move(x -> x.move(OF_WEIGHTS, 0, A_TICKET, 0, -1), NO_ROW, MISSING);
-        sentence("open, close: NO_ROW ahead of PLACES");
-        move(x -> x.open(A_TICKET, -1, 0), NO_ROW, MISSING);
-        move(x -> x.open(A_TICKET, 8, 0), NO_ROW, MISSING);
-        move(x -> x.close(A_TICKET, -1, 0), NO_ROW, MISSING);
-        move(x -> x.close(A_TICKET, 0, 8), NO_ROW, MISSING);
-        sentence("spread: NO_ROW ahead of PLACES");
-        other(x -> x.spread(A_TICKET, 0), NO_ROW, MISSING);
-        other(x -> x.spread(A_TICKET, 8), NO_ROW, MISSING);
-        sentence("put, what, match, polish: NO_ROW ahead of PLACES");
-        leavesAll(x -> x.put(A_TICKET, -1, PLAIN), NO_ROW);
-        leavesAll(x -> x.what(A_TICKET, -1), NO_ROW);
-        leavesAll(x -> x.match(A_TICKET, -1, OF_WEIGHTS, 0, 1), NO_ROW);
-        leavesAll(x -> x.match(OF_WEIGHTS, 0, A_TICKET, 0, -1), NO_ROW);
-        leavesAll(x -> x.polish(A_TICKET, -1, 1), NO_ROW);
+        sentence("polish: MISSING: NOTHING there");
+        leavesAll(x -> x.polish(OF_BEADS, 1, 1), MISSING);
+        leavesAll(x -> x.polish(OF_STONES, 1, 1), MISSING);
     }
 
     private static void unlike() {
@@ -406,10 +364,11 @@ public final class BeadBenchRefusals extends Checks {
     public static void main(String[] args) {
         bad();
         badBeyondTrays();
+        withoutRow("MISSING", EMPTY, MISSING);
+        withoutRow("NO_ROW", A_TICKET, NO_ROW);
+        withoutRowAheadOfPlaces("MISSING", EMPTY, MISSING);
+        withoutRowAheadOfPlaces("NO_ROW", A_TICKET, NO_ROW);
         missing();
-        missingFirst();
-        noRow();
-        noRowFirst();
         unlike();
         unlikePairs();
         places();

@@ -151,6 +151,35 @@ public final class BeadBenchUndo extends Checks {
         bad("spread()", x -> x.spread(-1, 1));
     }
 
+    /** A call that undo() takes no notice of, well or refused, between one that it does take back and undo() itself. */
+    private static void passedOver(String words, Call call) {
+        sentence("undo: the latest move(), open(), close(), turn() or spread(), though there was since " + words);
+        Bench x = scene();
+        x.turn(0, 1);
+        call.on(x);
+        due(x.undo(), 3);
+        row(x, 0, 10, 20, 30);
+    }
+
+    private static void othersArePassedOver() {
+        passedOver("lay()", x -> x.lay(9, WEIGHTS, 3));
+        passedOver("ticket()", x -> x.ticket(9, 1, 3) ? 1 : 0);
+        passedOver("ticket() of EMPTY", x -> x.ticket(8, 0, 0) ? 1 : 0);
+        passedOver("share()", x -> x.share(3, 8));
+        passedOver("put() into the row", x -> x.put(0, 0, 5));
+        passedOver("put() into another row", x -> x.put(3, 0, 5));
+        passedOver("put() that is refused", x -> x.put(3, 2, 5));
+        passedOver("match()", x -> x.match(0, 0, 8, 0, 3));
+        passedOver("match() that is refused", x -> x.match(0, 0, 1, 0, 3));
+        passedOver("polish()", x -> x.polish(4, 0, 5));
+        passedOver("polish() that is refused", x -> x.polish(4, 4, 5));
+        passedOver("tray()", x -> x.tray(0, 0));
+        passedOver("what()", x -> x.what(0, 0));
+        passedOver("at()", x -> x.at(0, 0));
+        passedOver("polished()", x -> x.polished(4, 0));
+        passedOver("told()", x -> x.told(1));
+    }
+
     private static void stopped() {
         sentence("undo: what came ahead of where it was STOPPED is taken back");
         Bench x = scene();
@@ -199,10 +228,11 @@ public final class BeadBenchUndo extends Checks {
         sentence("undo: in whichever trays it lies: another one than it was changed in");
         Bench x = scene();
         x.turn(0, 1);
-        x.fill(0, WEIGHTS, 1, 2, 3, 4);
+        x.fill(0, WEIGHTS, 1, 2, 3);
+        row(x, 8, 20, 30, 10);
         due(x.undo(), 3);
         row(x, 8, 10, 20, 30);
-        row(x, 0, 1, 2, 3, 4);
+        row(x, 0, 1, 2, 3);
         sentence("undo: in whichever trays it lies: shared since");
         Bench y = scene();
         y.turn(0, 1);
@@ -264,6 +294,7 @@ public final class BeadBenchUndo extends Checks {
         refusedIntoRow();
         refusedIntoNoRow();
         badIsNone();
+        othersArePassedOver();
         stopped();
         latestAlone();
         wherever();
